@@ -31,6 +31,7 @@ public final class PromisesTest {
         contractWeeks();
         lacks();
         recall();
+        recallBuyers();
         recallLater();
         lot();
         batch();
@@ -216,6 +217,11 @@ public final class PromisesTest {
         x.recall(1);
         due("a recalled one is fresh, too", x.iced(1), true);
         due("ice", x.count(11), 980);
+        x.land(2, 979, 0);
+        x.land(2, 1, 0);
+        due("979 of 980", x.iced(2), true);
+        due("one kilogram, all the ice", x.iced(3), true);
+        due("ice", x.count(11), 0);
     }
 
     private static void kind() {
@@ -425,6 +431,21 @@ public final class PromisesTest {
         due("one is there", x.pack(0, 0, 33), 99);
         x.go(2);
         due("both are gone", x.pack(0, 0, 1), NONE);
+        packExactly();
+    }
+
+    private static void packExactly() {
+        FishTins x = works();
+        x.kind(2, 1011, 5);
+        x.land(0, 500, 0);
+        due("51 cases", x.pack(0, 2, 51), NONE);
+        due("50 cases", x.pack(0, 2, 50), 50);
+        due("100 kilograms", x.pack(1, 0, 50), 100);
+        due("more than 300", x.pack(2, 1, 50 + 1), NONE);
+        due("all of 300", x.pack(2, 1, 50), 150);
+        due("packed", x.count(8), 300);
+        x.go(1);
+        due("nothing left of a crew's hour", x.count(8), 0);
     }
 
     private static void packHundred() {
@@ -466,6 +487,12 @@ public final class PromisesTest {
         due("the last", x.batch(99, 1), 1);
         due("no more", x.batch(100, 1), NONE);
         due("of the last", x.of(99, x.count(1) - 1), 1);
+        due("more than all", x.sell(0, 0, 101), NONE);
+        due("all", x.sell(0, 0, 100), 500);
+        due("none", x.sell(1, 0, 1), NONE);
+        due("bought of a full works", x.recall(x.count(1) - 1), 1);
+        due("the last is barred", x.batch(99, 3), 1);
+        due("the first isn't", x.batch(0, 3), 0);
     }
 
     private static void fail() {
@@ -616,6 +643,9 @@ public final class PromisesTest {
         due("dearer one of the sauce", y.plan(1), 20);
         due("the other sauce", y.plan(2), 7);
         due("worth", y.worth(), 15 + 100 + 28);
+        y.sauce(0, 1);
+        y.sauce(1, 1);
+        due("more of both sauces", y.worth(), 18 + 100 + 32);
         due("kind 0", x.plan(0), 20);
         due("kind 1", x.plan(1), 20);
         x.pack(0, 0, 20);
@@ -704,6 +734,10 @@ public final class PromisesTest {
         due("nothing", y.worth(), 0);
         y.land(0, 9, 0);
         due("nine kilograms", y.worth(), 100);
+        y.land(1, 9, 0);
+        due("nobody takes them", y.worth(), 100);
+        y.land(0, 1, 0);
+        due("ten kilograms", y.worth(), 110);
     }
 
     private static void sell() {
@@ -905,6 +939,11 @@ public final class PromisesTest {
         due("4 is none such", x.lacks(4), NONE);
         x.recall(0);
         due("barred", x.lacks(0), 8);
+        FishTins y = stocked();
+        y.contract(0, 0, 15, 0);
+        y.contract(0, 0, 15, 0);
+        due("lower number first", y.lacks(0), 0);
+        due("higher number next", y.lacks(1), 10);
     }
 
     private static void recall() {
@@ -937,6 +976,42 @@ public final class PromisesTest {
         x.land(2, 10, 0);
         x.go(20);
         due("one that is meal", x.recall(3), 0);
+    }
+
+    private static void recallBuyers() {
+        promise = "16 recall, who bought";
+        FishTins x = works();
+        x.land(0, 21, 1);
+        x.land(0, 20, 0);
+        x.pack(0, 0, 10);
+        x.pack(1, 0, 10);
+        x.go(1);
+        due("one kilogram of lot 0", x.of(1, 0), 1);
+        due("all but one", x.sell(0, 0, 9), 90);
+        due("the last one", x.sell(1, 0, 1), 10);
+        due("sold out", x.batch(0, 1), 0);
+        due("of the other", x.sell(2, 0, 3), 30);
+        due("the second batch alone", x.recall(1), 1 << 2);
+        due("not barred", x.batch(0, 3), 0);
+        due("both", x.recall(0), 1 << 0 | 1 << 1 | 1 << 2);
+        FishTins y = works();
+        y.land(0, 21, 1);
+        y.land(0, 20, 0);
+        y.pack(0, 0, 10);
+        y.pack(1, 0, 10);
+        y.go(1);
+        due("exactly the first batch", y.sell(3, 0, 10), 100);
+        due("nothing of the second", y.recall(1), 0);
+        due("first", y.recall(0), 1 << 3);
+        FishTins z = works();
+        z.land(0, 21, 1);
+        z.land(0, 20, 0);
+        z.pack(0, 0, 10);
+        z.pack(1, 0, 10);
+        z.go(1);
+        z.sell(4, 0, 11);
+        z.recall(0);
+        due("one kilogram bars", z.batch(1, 3), 1);
     }
 
     private static void recallLater() {
