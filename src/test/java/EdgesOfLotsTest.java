@@ -6,6 +6,7 @@ public final class EdgesOfLotsTest {
         aNewObjectHasNothing();
         aNewObjectIsAlone();
         numbersBeginWith0();
+        the512thCall();
         landSize();
         landKilograms();
         landAgo();
@@ -72,6 +73,14 @@ public final class EdgesOfLotsTest {
         w.due("land(0, 10, 0)", 0).due("land(0, 10, 0)", 1);
         w.due("contract(0, 0, 1, 0)", 0).due("contract(0, 0, 1, 0)", 1).does("go(3)", "pack(0, 0, 1)", "go(1)");
         w.due("batch(0, 4)", 1).refused("batch(1, 4)");
+    }
+
+    private static void the512thCall() {
+        Works w = works("An object is used for at most 512 calls");
+        for (int calls = 7; calls < 510; calls++) {
+            w.does("go(1)");
+        }
+        w.due("land(0, 10, 0)", 0).due("count(0)", 503);
     }
 
     private static void landSize() {
